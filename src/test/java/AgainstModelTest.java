@@ -115,7 +115,7 @@ public final class AgainstModelTest {
             case 4: return new int[] {2, unit, 0, 0};
             case 5: case 6: return new int[] {3, random.nextInt(10), number(1, 6), random.nextInt(goods)};
             case 7: case 8: case 9: return new int[] {4, unit, random.nextInt(10), 0};
-            case 10: return new int[] {5, random.nextInt(4), random.nextBoolean() ? number(1, 10000) : number(-10000, -1), 0};
+            case 10: return new int[] {5, random.nextInt(4), random.nextBoolean() ? number(1, 10000) : -number(1, 10000), 0};
             default: return new int[] {6, random.nextInt(places), random.nextInt(places), number(1, 99)};
         }
     }

@@ -52,6 +52,9 @@ public final class Promise06PromiseTest {
             promise -2147483647 = NoSuchElementException
             back = done
             promise 512 = NoSuchElementException
+            back = done
+            promise 1 = NoSuchElementException
+            promise 0 = 0
             """);
         Due.end();
     }

@@ -33,6 +33,10 @@ public final class Promise08WalkTest {
             walk 2 5 = 12            # another one
             event 1 0 5 0 = 1
             walk 2 5 = 1
+            where 0 1 = -1           # asked of a time before the gifts
+            walk 2 5 = 1
+            back = done
+            walk 2 5 = 12
             """);
         Due.run("four and five places", Due.each(0, 5, "event 0 %d 1 %d = 1") + "event 3 0 6 1 = 1\n"
             + Due.each(0, 3, "event 4 %d 0 0 = 1") + """

@@ -24,6 +24,12 @@ public final class Promise14CountTest {
             event 2 0 0 0 = 1
             count 2 = 1
             count 4 = 1              # full, though its unit is gone
+            event 0 2 1 8 = 1
+            event 4 2 9 0 = 1
+            count 4 = 2
+            back = done
+            count 4 = 1
+            back = done
             needs 0 = 2
             explained 0 = 5
             count 1 = 3              # trying refuses nothing
