@@ -1,3 +1,4 @@
+import java.util.Arrays;
 import java.util.List;
 import java.util.Random;
 
@@ -5,8 +6,8 @@ import java.util.Random;
 public final class AgainstModelTest {
     private static final int RUNS = 400;
     private static final int CALLS = 512;
-    private static final String NO_ELEMENT = "NoSuchElementException";
-    private static final String WRONG_NUMBER = "IllegalArgumentException";
+    private static final String NO_ELEMENT = Due.NO_ELEMENT;
+    private static final String WRONG_NUMBER = Due.WRONG_NUMBER;
 
     private final Random random;
     private final int goods;
@@ -102,9 +103,17 @@ public final class AgainstModelTest {
 
     private void tell() {
         int[] e = event();
-        boolean room = model.events.size() < 60;
-        String due = !room ? "UnsupportedOperationException" : model.take(e) ? "1" : "0";
-        Due.same("event", Due.answer(house, "event", e[0], e[1], e[2], e[3]), due);
+        if (random.nextInt(10) == 0) {
+            e[random.nextInt(4)] += random.nextBoolean() ? number(-2, 2) : random.nextInt();
+        }
+        Due.same("event" + Arrays.toString(e), Due.answer(house, "event", e[0], e[1], e[2], e[3]), dueOfEvent(e));
+    }
+
+    private String dueOfEvent(int[] e) {
+        if (!Model.isInRange(e)) {
+            return WRONG_NUMBER;
+        }
+        return model.events.size() >= 60 ? Due.NO_ROOM : model.take(e) ? "1" : "0";
     }
 
     private int[] event() {
@@ -115,7 +124,7 @@ public final class AgainstModelTest {
             case 4: return new int[] {2, unit, 0, 0};
             case 5: case 6: return new int[] {3, random.nextInt(10), number(1, 6), random.nextInt(goods)};
             case 7: case 8: case 9: return new int[] {4, unit, random.nextInt(10), 0};
-            case 10: return new int[] {5, random.nextInt(4), random.nextBoolean() ? number(1, 10000) : -number(1, 10000), 0};
+            case 10: return new int[] {5, random.nextInt(4), number(1, 10000) * (random.nextBoolean() ? 1 : -1), 0};
             default: return new int[] {6, random.nextInt(places), random.nextInt(places), number(1, 99)};
         }
     }

@@ -4,8 +4,16 @@ import java.lang.reflect.Method;
 /**
  * Runs of calls written as text, each on a new PlainWarehouse: a line is "name number.. = answer", and the answer
  * is a number, "done" for a call without one, or the name of the exception that is due. "#" starts a remark.
+ * A run's title quotes the document's sentence that it is the test of, or says which reading of it.
  */
 final class Due {
+    static final String NO_ELEMENT = "NoSuchElementException";
+    static final String WRONG_NUMBER = "IllegalArgumentException";
+    static final String NO_ROOM = "UnsupportedOperationException";
+
+    /** What an object answers behind so many calls is free, so no run asks more. */
+    private static final int MOST_CALLS = 512;
+
     private static int wrong = 0;
     private static int asked = 0;
 
@@ -15,11 +23,15 @@ final class Due {
     /** A run of calls on a new object. */
     static void run(String title, String calls) {
         PlainWarehouse house = new PlainWarehouse();
+        int before = asked;
         for (String line : calls.split("\n")) {
             String call = line.replaceFirst("#.*", "").trim();
             if (!call.isEmpty()) {
                 ask(title, house, call);
             }
+        }
+        if (asked - before > MOST_CALLS) {
+            throw new AssertionError(title + ": more than 512 calls of one object");
         }
     }
 
@@ -30,6 +42,21 @@ final class Due {
             calls.append(call.replace("%d", "" + i).replace("%r", "" + i % 10)).append("\n");
         }
         return calls.toString();
+    }
+
+    /** A call with each number of a range, "%d", and with those outside it; a new object for each, behind a run. */
+    static void range(String title, String before, String call, int least, int most, String due, String outside) {
+        for (int number = least; number <= most; number++) {
+            run(title, before + each(number, number, call + " = " + due));
+        }
+        outside(title, before, call, least, most, outside);
+    }
+
+    /** The one below a range, the one above it, and int's ends. */
+    static void outside(String title, String before, String call, int least, int most, String due) {
+        for (int number : new int[] {least - 1, most + 1, Integer.MIN_VALUE, Integer.MAX_VALUE}) {
+            run(title, before + call.replace("%d", "" + number) + " = " + due);
+        }
     }
 
     static void same(String what, Object got, Object due) {
@@ -60,15 +87,20 @@ final class Due {
         }
     }
 
-    private static void ask(String title, PlainWarehouse house, String line) {
-        int split = line.indexOf('=');
-        String[] call = line.substring(0, split).trim().split(" +");
+    /** The same of a call as text, "name number..". */
+    static String answerTo(PlainWarehouse house, String text) {
+        String[] call = text.trim().split(" +");
         Object[] numbers = new Object[call.length - 1];
         for (int i = 0; i < numbers.length; i++) {
             numbers[i] = Integer.parseInt(call[i + 1]);
         }
-        String due = line.substring(split + 1).trim();
-        same(title + ": " + line.substring(0, split).trim(), answer(house, call[0], numbers), due);
+        return answer(house, call[0], numbers);
+    }
+
+    private static void ask(String title, PlainWarehouse house, String line) {
+        int split = line.indexOf('=');
+        String call = line.substring(0, split).trim();
+        same(title + ": " + call, answerTo(house, call), line.substring(split + 1).trim());
     }
 
     private static Method method(String name) {

@@ -23,6 +23,22 @@ final class Leaving {
         event 0 0 2 3 = 1        # 7
         """;
 
+    /** Sixty events: all behind event 0 need it. */
+    static final String ALL_NEED_THE_FIRST = "event 0 0 0 0 = 1\n" + Due.each(2, 60, "event 1 0 %r 0 = 1");
+
+    /** A unit's number is given to two orders, one behind the other; the second is another unit. */
+    static final String GIVEN_TWICE = """
+        event 0 0 1 0 = 1        # 0
+        event 3 0 1 1 = 1        # 1
+        event 4 0 0 0 = 1        # 2
+        event 3 1 1 1 = 1        # 3
+        event 2 0 0 0 = 1        # 4
+        event 0 0 1 0 = 1        # 5
+        event 4 0 1 0 = 1        # 6
+        event 2 0 0 0 = 1        # 7
+        event 0 0 1 0 = 1        # 8
+        """;
+
     private Leaving() {
     }
 }

@@ -5,11 +5,25 @@ import java.util.TreeSet;
 
 /**
  * The document's answers worked out another way than the class does: by looking through the list of events for the
- * latest one that matters. It takes right arguments alone, apart from order numbers that were not told.
+ * latest one that matters. Apart from isInRange, it takes right arguments alone, and order numbers that were not told.
  */
 final class Model {
+    /** Of each kind the least and the most of a, b and c. */
+    private static final int[][] RANGES = {
+        {0, 19, 0, 5, 0, 9}, {0, 19, 0, 9, 0, 0}, {0, 19, 0, 0, 0, 0}, {0, 9, 1, 9, 0, 5}, {0, 19, 0, 9, 0, 0},
+        {0, 3, -10000, 10000, 0, 0}, {0, 9, 0, 9, 1, 99},
+    };
+
     final List<int[]> events = new ArrayList<>();
     int refused = 0;
+
+    static boolean isInRange(int[] e) {
+        boolean right = e[0] >= 0 && e[0] < RANGES.length && !(e[0] == 5 && e[2] == 0);
+        for (int i = 0; right && i < 3; i++) {
+            right = e[i + 1] >= RANGES[e[0]][2 * i] && e[i + 1] <= RANGES[e[0]][2 * i + 1];
+        }
+        return right;
+    }
 
     boolean take(int... event) {
         boolean possible = isPossible(event);
