@@ -4,7 +4,7 @@ import java.lang.reflect.Method;
 /**
  * Runs of calls written as text, each on a new PlainWarehouse: a line is "name number.. = answer", and the answer
  * is a number, "done" for a call without one, or the name of the exception that is due. "#" starts a remark.
- * A run's title quotes the document's sentence that it is the test of, or says which reading of it.
+ * A run's title names the document's sentence that it is the test of, and the reading where it leaves room.
  */
 final class Due {
     static final String NO_ELEMENT = "NoSuchElementException";
